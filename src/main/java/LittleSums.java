@@ -18,7 +18,7 @@ public final class LittleSums {
         0b100111L,
         0b110011L,
         0b1001001001001L,
-        0b11_00000000_11_00000000_11L
+        0b1100000000110000000011L
     };
 
     private final long[] slots = new long[SLOTS];

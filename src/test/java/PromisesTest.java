@@ -20,6 +20,7 @@ public final class PromisesTest {
         promise10Shrink();
         promise11Undo();
         promise11UndoOfEveryChange();
+        promise11UndoBehindMoreThanSix();
         promise12Member();
         promise13Sum();
         promise14Difference();
@@ -150,6 +151,10 @@ public final class PromisesTest {
         faultOf("s0,007;", 0);
         faultOf("s0,07,8;", NONE);
         faultOf("s0,-1;", 0);
+        faultOf("s0,A;", 0);
+        faultOf("s0,1:;", 0);
+        faultOf("s0,/;", 0);
+        faultOf("s1,1;s:,1;", 5);
         faultOf("s0,1,1;", 0);
         faultOf("s0,1,2,2;", 0);
         faultOf("s0,2,1;", 0);
@@ -187,6 +192,10 @@ public final class PromisesTest {
         }
         Due.is("count(2) of all 41", told(all.append(';').toString()).count(2), 41);
         Due.is("lay() of none", new LittleSums().lay(), 0);
+        LittleSums full = told("e0;".repeat(64) + "s1,7,30;");
+        Due.is("count(5) of a full TEXT", full.count(5), 200);
+        slotIs("laid from a full TEXT", full, 1, 7, 30);
+        faultOf("e0;".repeat(66) + "e0", 198);
         Due.is("lay() of one that became none", written("s0,1;e0;").lay(), 0);
     }
 
@@ -329,6 +338,22 @@ public final class PromisesTest {
         firstSlots("all undone", x);
     }
 
+    private static void promise11UndoBehindMoreThanSix() {
+        LittleSums x = new LittleSums();
+        int[] order = {3, 0, 1, 2, 2, 1, 0, 3};
+        for (int i = 0; i < order.length; i++) {
+            x.put(order[i], 30 + i);
+        }
+        for (int left = 5; left >= 0; left--) {
+            Due.is("undo()", x.undo(), left);
+        }
+        Due.is("undo()", x.undo(), NO);
+        slotIs("undone", x, 0, 0, 1, 2, 5, 31);
+        slotIs("undone", x, 1, 0, 1, 4, 5);
+        slotIs("undone", x, 2, 0, 3, 6, 9, 12);
+        slotIs("undone", x, 3, 0, 1, 10, 11, 20, 21, 30);
+    }
+
     private static void promise12Member() {
         LittleSums x = told("s0,0,40;");
         Due.is("member(0, -1)", x.member(0, -1), 2);
@@ -456,6 +481,11 @@ public final class PromisesTest {
         gridIs("0,1,2,3,4", 0, 1, 2, 2, 3);
         gridIs("5,8,11,25,28,31", 5, 3, 20, 3, 2);
         gridIs("3,4,5,20,21,22,37,38,39", 3, 1, 17, 3, 3);
+        // of the area 12, d 2, e 5 there is one with m 6, too
+        gridIs("4,6,8,9,13,19", 4, 2, 5, 3, 4);
+        // d 2, e 3, m 4, n 3 would tell 8 twice
+        gridIs("2,4,6,7,8,9,14", 2, 2, 5, 4, 3);
+        gridIs("0,9,11,12,14,16,18,19,27,28,33", 0, 3, 8, 7, 4);
         LittleSums x = new LittleSums();
         Due.is("grid(0, -1)", x.grid(0, -1), BAD);
         Due.is("grid(0, 5)", x.grid(0, 5), BAD);
@@ -484,6 +514,9 @@ public final class PromisesTest {
         Due.is("alike(2, 3)", x.alike(2, 3), 0);
         Due.is("alike(3, 2)", x.alike(3, 2), 0);
         Due.is("alike(3, 3)", x.alike(3, 3), 1);
+        Due.is("alike(0, 1) of 1", told("s0,7;s1,30;").alike(0, 1), 1);
+        Due.is("alike(0, 1) of 3 that differ by like ones", told("s0,0,1,2;s1,0,1,3;").alike(0, 1), 0);
+        Due.is("alike(0, 1) of 3 that differ by like ones", told("s0,0,1,3;s1,0,1,2;").alike(0, 1), 0);
         Due.is("alike(-1, 0)", x.alike(-1, 0), BAD);
         Due.is("alike(0, 4)", x.alike(0, 4), BAD);
         x = told("s0,0,1,2,3,4,5,6;s1,4,10,16,22,28,34,40;");
@@ -552,6 +585,11 @@ public final class PromisesTest {
         Due.is("swell(0, -1, 0)", x.swell(0, -1, 0), BAD);
         x.take(2, 12);
         swellIs(x, 2, 1, 13, 12, 4095);
+        x = told("s0,0,38,39,40;s1,38,39,40;s2,30,39,40;");
+        swellIs(x, 0, 1, 5, 3, 0b1110);
+        swellIs(x, 0, 2, 7, 3, 0b1110);
+        x.take(1, 38);
+        swellIs(x, 0, 1, 4, 3, 0b1110);
     }
 
     private static void promise23Floor() {
@@ -570,6 +608,7 @@ public final class PromisesTest {
     private static void promise24Tight() {
         LittleSums x = told("s0,1,4,7;s1,0,3;s2,0,2,4;");
         Due.is("tight(0, 1)", x.tight(0, 1), 1);
+        Due.is("tight(1, 0)", x.tight(1, 0), 1);
         Due.is("tight(0, 0)", x.tight(0, 0), 1);
         Due.is("tight(0, 2)", x.tight(0, 2), 0);
         Due.is("tight(0, 3) of none", x.tight(0, 3), NO);
