@@ -42,54 +42,24 @@ public final class PromisesTest {
         Due.end();
     }
 
-    private static LittleSums told(String text) {
-        LittleSums x = written(text);
-        Due.holds("lay() of " + text, x.lay() >= 0);
-        return x;
-    }
-
-    private static LittleSums written(String text) {
-        LittleSums x = new LittleSums();
-        for (int i = 0; i < text.length(); i++) {
-            Due.is("write of " + text, x.write(text.charAt(i)), i + 1);
-        }
-        return x;
-    }
-
-    private static void slotIs(String when, LittleSums x, int k, int... numbers) {
-        String slot = when + ": SLOT " + k;
-        Due.is(slot + " has so many", x.member(k, -1), numbers.length);
-        for (int i = 0; i < numbers.length; i++) {
-            Due.is(slot + ", number " + i, x.member(k, i), numbers[i]);
-        }
-        Due.is(slot + ", behind the last", x.member(k, numbers.length), NONE);
-    }
-
-    private static void firstSlots(String when, LittleSums x) {
-        slotIs(when, x, 0, 0, 1, 2, 5);
-        slotIs(when, x, 1, 0, 1, 4, 5);
-        slotIs(when, x, 2, 0, 3, 6, 9, 12);
-        slotIs(when, x, 3, 0, 1, 10, 11, 20, 21);
-    }
-
     private static void faultOf(String text, int want) {
-        Due.is("fault() of " + text, written(text).fault(), want);
+        Due.is("fault() of " + text, Given.written(text).fault(), want);
         if (want != NONE) {
-            LittleSums x = written(text);
+            LittleSums x = Given.written(text);
             Due.is("lay() of " + text, x.lay(), NO);
-            firstSlots("behind lay() of " + text, x);
+            Given.firstSlots("behind lay() of " + text, x);
         }
     }
 
     private static void promise1NewObject() {
         LittleSums x = new LittleSums();
-        firstSlots("new", x);
+        Given.firstSlots("new", x);
         Due.is("count(5)", x.count(5), 0);
         Due.is("count(4)", x.count(4), 0);
         Due.is("fault()", x.fault(), NONE);
         Due.is("undo()", x.undo(), NO);
         x.take(0, 0);
-        firstSlots("another new one", new LittleSums());
+        Given.firstSlots("another new one", new LittleSums());
     }
 
     private static void promise2Write() {
@@ -108,13 +78,13 @@ public final class PromisesTest {
     }
 
     private static void promise3Wipe() {
-        LittleSums x = written("x;");
+        LittleSums x = Given.written("x;");
         Due.is("wipe()", x.wipe(), 2);
         Due.is("count(5)", x.count(5), 0);
         Due.is("fault()", x.fault(), NONE);
         Due.is("wipe() again", x.wipe(), 0);
         Due.is("write(115)", x.write(115), 1);
-        firstSlots("behind wipe()", x);
+        Given.firstSlots("behind wipe()", x);
     }
 
     private static void promise4Fault() {
@@ -165,45 +135,45 @@ public final class PromisesTest {
         faultOf("e04;", 0);
         faultOf("e30;", 0);
         faultOf("e000;", 0);
-        slotIs("two figures", told("s01,05,06;"), 1, 5, 6);
+        Given.slotIs("two figures", Given.told("s01,05,06;"), 1, 5, 6);
     }
 
     private static void promise5Lay() {
-        LittleSums x = written("s1,3,7;s3,1;s1,40;e3;s3,0,2;");
+        LittleSums x = Given.written("s1,3,7;s3,1;s1,40;e3;s3,0,2;");
         x.put(0, 30);
         Due.is("lay()", x.lay(), 2);
-        slotIs("laid", x, 0);
-        slotIs("laid", x, 1, 40);
-        slotIs("laid", x, 2);
-        slotIs("laid", x, 3, 0, 2);
+        Given.slotIs("laid", x, 0);
+        Given.slotIs("laid", x, 1, 40);
+        Given.slotIs("laid", x, 2);
+        Given.slotIs("laid", x, 3, 0, 2);
         Due.is("count(5) behind lay()", x.count(5), 28);
         Due.is("undo() behind lay()", x.undo(), NO);
         x.put(0, 1);
         Due.is("lay() again", x.lay(), 2);
-        slotIs("laid again", x, 0);
+        Given.slotIs("laid again", x, 0);
         x.put(0, 1);
         x.write('x');
         Due.is("lay() of a FAULT", x.lay(), NO);
-        slotIs("behind NO", x, 0, 1);
+        Given.slotIs("behind NO", x, 0, 1);
         Due.is("undo() behind NO", x.undo(), 0);
         StringBuilder all = new StringBuilder("s2");
         for (int v = 0; v <= 40; v++) {
             all.append(',').append(v);
         }
-        Due.is("count(2) of all 41", told(all.append(';').toString()).count(2), 41);
+        Due.is("count(2) of all 41", Given.told(all.append(';').toString()).count(2), 41);
         Due.is("lay() of none", new LittleSums().lay(), 0);
-        LittleSums full = told("e0;".repeat(64) + "s1,7,30;");
+        LittleSums full = Given.told("e0;".repeat(64) + "s1,7,30;");
         Due.is("count(5) of a full TEXT", full.count(5), 200);
-        slotIs("laid from a full TEXT", full, 1, 7, 30);
+        Given.slotIs("laid from a full TEXT", full, 1, 7, 30);
         faultOf("e0;".repeat(66) + "e0", 198);
-        Due.is("lay() of one that became none", written("s0,1;e0;").lay(), 0);
+        Due.is("lay() of one that became none", Given.written("s0,1;e0;").lay(), 0);
     }
 
     private static void promise6Put() {
         LittleSums x = new LittleSums();
         Due.is("put(0, 40)", x.put(0, 40), 5);
         Due.is("put(0, 3)", x.put(0, 3), 6);
-        slotIs("put", x, 0, 0, 1, 2, 3, 5, 40);
+        Given.slotIs("put", x, 0, 0, 1, 2, 3, 5, 40);
         Due.is("put(0, 3) again", x.put(0, 3), NO);
         Due.is("put(0, 41)", x.put(0, 41), BAD);
         Due.is("put(0, -1)", x.put(0, -1), BAD);
@@ -216,7 +186,7 @@ public final class PromisesTest {
     private static void promise7Take() {
         LittleSums x = new LittleSums();
         Due.is("take(1, 4)", x.take(1, 4), 3);
-        slotIs("taken", x, 1, 0, 1, 5);
+        Given.slotIs("taken", x, 1, 0, 1, 5);
         Due.is("take(1, 4) again", x.take(1, 4), NO);
         Due.is("take(1, 41)", x.take(1, 41), BAD);
         Due.is("take(1, -1)", x.take(1, -1), BAD);
@@ -226,43 +196,43 @@ public final class PromisesTest {
         x.take(1, 0);
         x.take(1, 1);
         Due.is("take(1, 5)", x.take(1, 5), 0);
-        slotIs("all taken", x, 1);
+        Given.slotIs("all taken", x, 1);
     }
 
     private static void promise8BecomeSums() {
         LittleSums x = new LittleSums();
         Due.is("becomeSums(1, 0, 2)", x.becomeSums(1, 0, 2), 16);
-        slotIs("became", x, 1, 0, 1, 2, 3, 4, 5, 6, 7, 8, 9, 10, 11, 12, 13, 14, 17);
-        slotIs("added", x, 0, 0, 1, 2, 5);
-        x = told("s0,20,40;s1,0;s2,1;");
+        Given.slotIs("became", x, 1, 0, 1, 2, 3, 4, 5, 6, 7, 8, 9, 10, 11, 12, 13, 14, 17);
+        Given.slotIs("added", x, 0, 0, 1, 2, 5);
+        x = Given.told("s0,20,40;s1,0;s2,1;");
         Due.is("becomeSums(0, 0, 2), 41", x.becomeSums(0, 0, 2), NO);
         Due.is("becomeSums(0, 0, 0), 80", x.becomeSums(0, 0, 0), NO);
-        slotIs("behind NO", x, 0, 20, 40);
+        Given.slotIs("behind NO", x, 0, 20, 40);
         Due.is("count(4) behind NO", x.count(4), 0);
         Due.is("becomeSums(2, 0, 1), 40", x.becomeSums(2, 0, 1), 2);
-        slotIs("became", x, 2, 20, 40);
+        Given.slotIs("became", x, 2, 20, 40);
         Due.is("becomeSums(2, 0, 3) with none", x.becomeSums(2, 0, 3), 0);
-        slotIs("became none", x, 2);
+        Given.slotIs("became none", x, 2);
         Due.is("becomeSums(0, 3, 0) with none", x.becomeSums(0, 3, 0), 0);
         Due.is("becomeSums(-1, 0, 0)", x.becomeSums(-1, 0, 0), BAD);
         Due.is("becomeSums(0, 4, 0)", x.becomeSums(0, 4, 0), BAD);
         Due.is("becomeSums(0, 0, 4)", x.becomeSums(0, 0, 4), BAD);
-        Due.is("becomeSums(4, 0, 0) with sums above 40", told("s0,40;").becomeSums(4, 0, 0), BAD);
-        x = told("s0,1,3;");
+        Due.is("becomeSums(4, 0, 0) with sums above 40", Given.told("s0,40;").becomeSums(4, 0, 0), BAD);
+        x = Given.told("s0,1,3;");
         Due.is("becomeSums(0, 0, 0) of itself", x.becomeSums(0, 0, 0), 3);
-        slotIs("became SUMS of itself", x, 0, 2, 4, 6);
+        Given.slotIs("became SUMS of itself", x, 0, 2, 4, 6);
     }
 
     private static void promise9Move() {
         LittleSums x = new LittleSums();
         Due.is("move(0, 1, 7, 5)", x.move(0, 1, 7, 5), 4);
-        slotIs("moved", x, 0, 5, 12, 33, 40);
+        Given.slotIs("moved", x, 0, 5, 12, 33, 40);
         Due.is("move(0, 0, 1, -5) of itself", x.move(0, 0, 1, -5), 4);
-        slotIs("moved", x, 0, 0, 7, 28, 35);
+        Given.slotIs("moved", x, 0, 0, 7, 28, 35);
         Due.is("move(0, 0, 1, 6), 41", x.move(0, 0, 1, 6), NO);
         Due.is("move(0, 0, 1, -1), below 0", x.move(0, 0, 1, -1), NO);
         Due.is("move(1, 1, 9, -5), 40 but below 0", x.move(1, 1, 9, -5), NO);
-        slotIs("behind NO", x, 0, 0, 7, 28, 35);
+        Given.slotIs("behind NO", x, 0, 0, 7, 28, 35);
         Due.is("count(4)", x.count(4), 2);
         Due.is("move(0, 1, 0, 0)", x.move(0, 1, 0, 0), BAD);
         Due.is("move(0, 1, 10, 0)", x.move(0, 1, 10, 0), BAD);
@@ -270,28 +240,28 @@ public final class PromisesTest {
         Due.is("move(0, 1, 1, 41)", x.move(0, 1, 1, 41), BAD);
         Due.is("move(4, 1, 1, 0)", x.move(4, 1, 1, 0), BAD);
         Due.is("move(0, -1, 1, 0)", x.move(0, -1, 1, 0), BAD);
-        x = told("s0,0;s1,40;s2,4,5;");
+        x = Given.told("s0,0;s1,40;s2,4,5;");
         Due.is("move(0, 0, 9, 40)", x.move(0, 0, 9, 40), 1);
-        slotIs("moved", x, 0, 40);
+        Given.slotIs("moved", x, 0, 40);
         Due.is("move(1, 1, 1, -40)", x.move(1, 1, 1, -40), 1);
-        slotIs("moved", x, 1, 0);
+        Given.slotIs("moved", x, 1, 0);
         Due.is("move(2, 2, 9, -36)", x.move(2, 2, 9, -36), 2);
-        slotIs("moved", x, 2, 0, 9);
+        Given.slotIs("moved", x, 2, 0, 9);
         Due.is("move(2, 3, 9, 40) of none", x.move(2, 3, 9, 40), 0);
-        slotIs("moved none", x, 2);
+        Given.slotIs("moved none", x, 2);
     }
 
     private static void promise10Shrink() {
         LittleSums x = new LittleSums();
         Due.is("shrink(1, 0, 2)", x.shrink(1, 0, 2), 2);
-        slotIs("shrunk", x, 1, 2, 5);
-        slotIs("what it is a part of", x, 0, 0, 1, 2, 5);
+        Given.slotIs("shrunk", x, 1, 2, 5);
+        Given.slotIs("what it is a part of", x, 0, 0, 1, 2, 5);
         Due.is("shrink(0, 0, 2) of itself", x.shrink(0, 0, 2), 2);
-        slotIs("shrunk", x, 0, 2, 5);
+        Given.slotIs("shrunk", x, 0, 2, 5);
         Due.is("shrink(-1, 0, 2)", x.shrink(-1, 0, 2), BAD);
         Due.is("shrink(0, 4, 2)", x.shrink(0, 4, 2), BAD);
         Due.is("shrink(0, 0, 4)", x.shrink(0, 0, 4), BAD);
-        x = told("s0,1,2,3,4,5,6,7,8,9,10,11,12,13;s1,5;");
+        x = Given.told("s0,1,2,3,4,5,6,7,8,9,10,11,12,13;s1,5;");
         Due.is("shrink(2, 0, 1) of 13", x.shrink(2, 0, 1), NO);
         Due.is("shrink(2, 1, 0) by 13", x.shrink(2, 1, 0), 1);
         Due.is("shrink(3, 3, 0) of none", x.shrink(3, 3, 0), NO);
@@ -299,7 +269,7 @@ public final class PromisesTest {
         Due.is("shrink(3, 1, 1) of a SLOT that has none before", x.shrink(3, 1, 1), 1);
         x.take(0, 13);
         Due.is("shrink(2, 0, 1) of 12", x.shrink(2, 0, 1), 12);
-        slotIs("shrunk", x, 2, 1, 2, 3, 4, 5, 6, 7, 8, 9, 10, 11, 12);
+        Given.slotIs("shrunk", x, 2, 1, 2, 3, 4, 5, 6, 7, 8, 9, 10, 11, 12);
     }
 
     private static void promise11Undo() {
@@ -317,10 +287,10 @@ public final class PromisesTest {
             Due.is("count(0) behind undo()", x.count(0), 6 + left);
         }
         Due.is("undo() the 7th", x.undo(), NO);
-        slotIs("undone", x, 0, 0, 1, 2, 5, 30, 31);
+        Given.slotIs("undone", x, 0, 0, 1, 2, 5, 30, 31);
         x.put(0, 3);
         Due.is("undo() of a change behind undo()", x.undo(), 0);
-        slotIs("undone", x, 0, 0, 1, 2, 5, 30, 31);
+        Given.slotIs("undone", x, 0, 0, 1, 2, 5, 30, 31);
     }
 
     private static void promise11UndoOfEveryChange() {
@@ -335,7 +305,7 @@ public final class PromisesTest {
         for (int left = 5; left >= 0; left--) {
             Due.is("undo()", x.undo(), left);
         }
-        firstSlots("all undone", x);
+        Given.firstSlots("all undone", x);
     }
 
     private static void promise11UndoBehindMoreThanSix() {
@@ -348,14 +318,14 @@ public final class PromisesTest {
             Due.is("undo()", x.undo(), left);
         }
         Due.is("undo()", x.undo(), NO);
-        slotIs("undone", x, 0, 0, 1, 2, 5, 31);
-        slotIs("undone", x, 1, 0, 1, 4, 5);
-        slotIs("undone", x, 2, 0, 3, 6, 9, 12);
-        slotIs("undone", x, 3, 0, 1, 10, 11, 20, 21, 30);
+        Given.slotIs("undone", x, 0, 0, 1, 2, 5, 31);
+        Given.slotIs("undone", x, 1, 0, 1, 4, 5);
+        Given.slotIs("undone", x, 2, 0, 3, 6, 9, 12);
+        Given.slotIs("undone", x, 3, 0, 1, 10, 11, 20, 21, 30);
     }
 
     private static void promise12Member() {
-        LittleSums x = told("s0,0,40;");
+        LittleSums x = Given.told("s0,0,40;");
         Due.is("member(0, -1)", x.member(0, -1), 2);
         Due.is("member(0, 0)", x.member(0, 0), 0);
         Due.is("member(0, 1)", x.member(0, 1), 40);
@@ -368,7 +338,7 @@ public final class PromisesTest {
     }
 
     private static void promise13Sum() {
-        LittleSums x = told("s0,0,1,40;s1,0,39,40;");
+        LittleSums x = Given.told("s0,0,1,40;s1,0,39,40;");
         int[] all = {0, 1, 39, 40, 41, 79, 80};
         Due.is("sum(0, 1, -1)", x.sum(0, 1, -1), all.length);
         for (int i = 0; i < all.length; i++) {
@@ -380,13 +350,13 @@ public final class PromisesTest {
         Due.is("sum(0, 4, 0)", x.sum(0, 4, 0), BAD);
         Due.is("sum(0, 2, -1)", x.sum(0, 2, -1), 0);
         Due.is("sum(2, 0, 0)", x.sum(2, 0, 0), NONE);
-        x = told("s0,24;s1,39,40;");
+        x = Given.told("s0,24;s1,39,40;");
         Due.is("sum(0, 1, 0) on 63", x.sum(0, 1, 0), 63);
         Due.is("sum(0, 1, 1) on 64", x.sum(0, 1, 1), 64);
     }
 
     private static void promise14Difference() {
-        LittleSums x = told("s0,0,1,40;s1,0,39,40;");
+        LittleSums x = Given.told("s0,0,1,40;s1,0,39,40;");
         int[] all = {0, 1, 2, 40, 41, 80};
         Due.is("difference(0, 1, -1)", x.difference(0, 1, -1), all.length);
         for (int i = 0; i < all.length; i++) {
@@ -403,7 +373,7 @@ public final class PromisesTest {
     }
 
     private static void promise15Times() {
-        LittleSums x = told("s0,0,40;s1,40;s2,0,1,40;");
+        LittleSums x = Given.told("s0,0,40;s1,40;s2,0,1,40;");
         for (int n = 1; n <= 6; n++) {
             Due.is("times(0, " + n + ")", x.times(0, n), n + 1);
             Due.is("times(1, " + n + ")", x.times(1, n), 1);
@@ -417,7 +387,7 @@ public final class PromisesTest {
     }
 
     private static void promise16Ways() {
-        LittleSums x = told("s0,0,1,2,40;s1,0,1,38,40;");
+        LittleSums x = Given.told("s0,0,1,2,40;s1,0,1,38,40;");
         Due.is("ways(0, 1, 0)", x.ways(0, 1, 0), 1);
         Due.is("ways(0, 1, 1)", x.ways(0, 1, 1), 2);
         Due.is("ways(0, 1, 40)", x.ways(0, 1, 40), 3);
@@ -433,7 +403,7 @@ public final class PromisesTest {
     }
 
     private static void promise17Energy() {
-        LittleSums x = told("s0,7;s1,0,40;s2,0,1,2;");
+        LittleSums x = Given.told("s0,7;s1,0,40;s2,0,1,2;");
         Due.is("energy(0)", x.energy(0), 1);
         Due.is("energy(1)", x.energy(1), 6);
         Due.is("energy(2)", x.energy(2), 19);
@@ -453,7 +423,7 @@ public final class PromisesTest {
     }
 
     private static void promise18Cover() {
-        LittleSums x = told("s0,4,10,22;s1,1,4,8;s2,0,40;");
+        LittleSums x = Given.told("s0,4,10,22;s1,1,4,8;s2,0,40;");
         coverIs(x, 0, 4, 6, 4);
         coverIs(x, 1, 1, 1, 8);
         coverIs(x, 2, 0, 40, 2);
@@ -468,7 +438,7 @@ public final class PromisesTest {
     }
 
     private static void gridIs(String set, int... best) {
-        LittleSums x = told("s1," + set + ";");
+        LittleSums x = Given.told("s1," + set + ";");
         for (int what = 0; what < 5; what++) {
             Due.is("grid(1, " + what + ") of " + set, x.grid(1, what), best[what]);
         }
@@ -507,19 +477,19 @@ public final class PromisesTest {
     }
 
     private static void promise20Alike() {
-        LittleSums x = told("s0,0,1,3,9;s1,0,8,11,12;s2,0,1,2,3;s3,0,1,5,6;");
+        LittleSums x = Given.told("s0,0,1,3,9;s1,0,8,11,12;s2,0,1,2,3;s3,0,1,5,6;");
         Due.is("alike(0, 1), neither has sums in common", x.alike(0, 1), 1);
         Due.is("alike(0, 2)", x.alike(0, 2), 0);
         Due.is("alike(2, 0)", x.alike(2, 0), 0);
         Due.is("alike(2, 3)", x.alike(2, 3), 0);
         Due.is("alike(3, 2)", x.alike(3, 2), 0);
         Due.is("alike(3, 3)", x.alike(3, 3), 1);
-        Due.is("alike(0, 1) of 1", told("s0,7;s1,30;").alike(0, 1), 1);
-        Due.is("alike(0, 1) of 3 that differ by like ones", told("s0,0,1,2;s1,0,1,3;").alike(0, 1), 0);
-        Due.is("alike(0, 1) of 3 that differ by like ones", told("s0,0,1,3;s1,0,1,2;").alike(0, 1), 0);
+        Due.is("alike(0, 1) of 1", Given.told("s0,7;s1,30;").alike(0, 1), 1);
+        Due.is("alike(0, 1) of 3 that differ by like ones", Given.told("s0,0,1,2;s1,0,1,3;").alike(0, 1), 0);
+        Due.is("alike(0, 1) of 3 that differ by like ones", Given.told("s0,0,1,3;s1,0,1,2;").alike(0, 1), 0);
         Due.is("alike(-1, 0)", x.alike(-1, 0), BAD);
         Due.is("alike(0, 4)", x.alike(0, 4), BAD);
-        x = told("s0,0,1,2,3,4,5,6;s1,4,10,16,22,28,34,40;");
+        x = Given.told("s0,0,1,2,3,4,5,6;s1,4,10,16,22,28,34,40;");
         Due.is("alike(0, 1) of 7", x.alike(0, 1), 1);
         Due.is("alike(0, 2) of unlike many", x.alike(0, 2), NO);
         Due.is("alike(2, 3) of none", x.alike(2, 3), NO);
@@ -531,7 +501,7 @@ public final class PromisesTest {
     }
 
     private static void promise21Partner() {
-        LittleSums x = told("s0,0,1,4;s1,10,37,40;s2,0,1,2,3;s3,5,7,9,11;");
+        LittleSums x = Given.told("s0,0,1,4;s1,10,37,40;s2,0,1,2,3;s3,5,7,9,11;");
         int[] mirrored = {10, 37, 40};
         for (int i = 0; i < 3; i++) {
             Due.is("partner(0, 1, " + i + ")", x.partner(0, 1, i), mirrored[i]);
@@ -544,7 +514,7 @@ public final class PromisesTest {
         Due.is("partner(0, 1, -1)", x.partner(0, 1, -1), BAD);
         Due.is("partner(4, 1, 0)", x.partner(4, 1, 0), BAD);
         Due.is("partner(0, -1, 0)", x.partner(0, -1, 0), BAD);
-        x = told("s0,0,1,2,10;s1,0,8,9,10;s2,0,1,3,9;");
+        x = Given.told("s0,0,1,2,10;s1,0,8,9,10;s2,0,1,3,9;");
         int[] turned = {8, 9, 10, 0};
         for (int i = 0; i < 4; i++) {
             Due.is("partner(0, 1, " + i + ")", x.partner(0, 1, i), turned[i]);
@@ -561,7 +531,7 @@ public final class PromisesTest {
     }
 
     private static void promise22Swell() {
-        LittleSums x = told("s0,0,1,10,11;s1,0,1;s2,3,20,40;s3,0,1,2;");
+        LittleSums x = Given.told("s0,0,1,10,11;s1,0,1;s2,3,20,40;s3,0,1,2;");
         swellIs(x, 0, 1, 3, 2, 15);
         swellIs(x, 2, 1, 2, 1, 7);
         swellIs(x, 3, 1, 4, 3, 7);
@@ -572,7 +542,7 @@ public final class PromisesTest {
         x.put(3, 31);
         x.put(3, 32);
         swellIs(x, 3, 1, 4, 3, 0b1110111);
-        x = told("s0,0,2,3,20,22,23;s1,0,1;s2,0,1,2,3,4,5,6,7,8,9,10,11,12;");
+        x = Given.told("s0,0,2,3,20,22,23;s1,0,1;s2,0,1,2,3,4,5,6,7,8,9,10,11,12;");
         swellIs(x, 0, 1, 3, 2, 0b110110);
         Due.is("swell(2, 1, 0) of 13", x.swell(2, 1, 0), NO);
         swellIs(x, 1, 2, 7, 1, 3);
@@ -585,7 +555,7 @@ public final class PromisesTest {
         Due.is("swell(0, -1, 0)", x.swell(0, -1, 0), BAD);
         x.take(2, 12);
         swellIs(x, 2, 1, 13, 12, 4095);
-        x = told("s0,0,38,39,40;s1,38,39,40;s2,30,39,40;");
+        x = Given.told("s0,0,38,39,40;s1,38,39,40;s2,30,39,40;");
         swellIs(x, 0, 1, 5, 3, 0b1110);
         swellIs(x, 0, 2, 7, 3, 0b1110);
         x.take(1, 38);
@@ -598,7 +568,7 @@ public final class PromisesTest {
         Due.is("floor(2, 2)", x.floor(2, 2), 9);
         Due.is("floor(-1, 0)", x.floor(-1, 0), BAD);
         Due.is("floor(0, 4)", x.floor(0, 4), BAD);
-        x = told("s0,4;s1,3,9;");
+        x = Given.told("s0,4;s1,3,9;");
         Due.is("floor(0, 0)", x.floor(0, 0), 1);
         Due.is("floor(0, 1)", x.floor(0, 1), 2);
         Due.is("floor(0, 2) of none", x.floor(0, 2), NO);
@@ -606,7 +576,7 @@ public final class PromisesTest {
     }
 
     private static void promise24Tight() {
-        LittleSums x = told("s0,1,4,7;s1,0,3;s2,0,2,4;");
+        LittleSums x = Given.told("s0,1,4,7;s1,0,3;s2,0,2,4;");
         Due.is("tight(0, 1)", x.tight(0, 1), 1);
         Due.is("tight(1, 0)", x.tight(1, 0), 1);
         Due.is("tight(0, 0)", x.tight(0, 0), 1);
@@ -622,7 +592,7 @@ public final class PromisesTest {
     }
 
     private static void promise25Room() {
-        LittleSums x = told("s0,1,5,9;s1,0,1,3;s2,0,1,2,4;s3,3,7;");
+        LittleSums x = Given.told("s0,1,5,9;s1,0,1,3;s2,0,1,2,4;s3,3,7;");
         Due.is("room(0)", x.room(0), 0);
         Due.is("room(1), 6 SUMS of 3", x.room(1), NONE);
         Due.is("room(2), 8 SUMS of 4", x.room(2), 0);
@@ -633,11 +603,11 @@ public final class PromisesTest {
         Due.is("room(-1)", x.room(-1), BAD);
         Due.is("room(4)", x.room(4), BAD);
         // {0, 1, 2, 3, 5, 6}: all of 0 to 12 are SUMS, and COVER has 7
-        Due.is("room(0) with some left", told("s0,0,1,2,3,5,6;").room(0), 13 - 6 + 1 - 7);
+        Due.is("room(0) with some left", Given.told("s0,0,1,2,3,5,6;").room(0), 13 - 6 + 1 - 7);
         // {0, 2, 3, 4, 5, 6, 8}: 0, 2 to 14 and 16 are SUMS, and COVER has 9
-        Due.is("room(0)", told("s0,0,2,3,4,5,6,8;").room(0), 15 - 7 + 1 - 9);
+        Due.is("room(0)", Given.told("s0,0,2,3,4,5,6,8;").room(0), 15 - 7 + 1 - 9);
         // {0, 1, 2, 4, 5, 6} made 3 times as much: 13 SUMS, and COVER has 7
-        Due.is("room(0), of d 3", told("s0,2,5,8,14,17,20;").room(0), 13 - 6 + 1 - 7);
+        Due.is("room(0), of d 3", Given.told("s0,2,5,8,14,17,20;").room(0), 13 - 6 + 1 - 7);
     }
 
     private static void promise26Smallest() {
@@ -674,7 +644,7 @@ public final class PromisesTest {
         for (int what = 0; what < 7; what++) {
             Due.is("count(" + what + ")", x.count(what), first[what]);
         }
-        x = written("s2,1,2,3;");
+        x = Given.written("s2,1,2,3;");
         x.take(0, 0);
         Due.is("count(0)", x.count(0), 3);
         Due.is("count(4)", x.count(4), 1);
@@ -688,7 +658,7 @@ public final class PromisesTest {
     }
 
     private static void askingChangesNothing() {
-        LittleSums x = written("x");
+        LittleSums x = Given.written("x");
         for (int a = 0; a < 4; a++) {
             for (int b = 0; b < 4; b++) {
                 x.sum(a, b, 0);
@@ -704,7 +674,7 @@ public final class PromisesTest {
         }
         x.smallest(8, 13, 0);
         x.fault();
-        firstSlots("asked", x);
+        Given.firstSlots("asked", x);
         Due.is("count(4)", x.count(4), 0);
         Due.is("count(5)", x.count(5), 1);
     }
@@ -738,7 +708,7 @@ public final class PromisesTest {
             Due.is("smallest(3, 4, " + far + ")", x.smallest(3, 4, far), far < 0 ? BAD : NONE);
             Due.is("count(" + far + ")", x.count(far), BAD);
         }
-        firstSlots("behind BAD", x);
+        Given.firstSlots("behind BAD", x);
         Due.is("count(4) behind BAD", x.count(4), 0);
     }
 }
