@@ -284,12 +284,10 @@ public final class ChangeBoundsTest {
             Due.is("count(4) behind " + changes + " changes", x.count(4), kept);
             for (int left = kept - 1; left >= 0; left--) {
                 Due.is("undo() behind " + changes + " changes", x.undo(), left);
+                putsAre(x, changes - kept + left);
             }
             Due.is("undo() of one more", x.undo(), NO);
-            for (int k = 0; k < 4; k++) {
-                boolean stays = k < changes - kept;
-                Due.is("count(" + k + ") behind " + changes + " changes, undone", x.count(k), stays ? 1 : 0);
-            }
+            putsAre(x, changes - kept);
         }
         LittleSums x = new LittleSums();
         x.put(0, 10);
@@ -304,6 +302,17 @@ public final class ChangeBoundsTest {
             x.undo();
         }
         Given.slotIs("the oldest of 7 stays", x, 0, 0, 1, 2, 5, 10);
+    }
+
+    /** Whether the SLOTS are as behind so many of lastSixUndone's changes. */
+    private static void putsAre(LittleSums x, int changes) {
+        for (int k = 0; k < 4; k++) {
+            int many = (changes + 3 - k) / 4;
+            Due.is("count(" + k + ") as behind " + changes + " changes", x.count(k), many);
+            for (int i = 0; i < many; i++) {
+                Due.is("member(" + k + ", " + i + ")", x.member(k, i), 10 + k + 4 * i);
+            }
+        }
     }
 
     private static void undoneCounts() {

@@ -1,3 +1,5 @@
+import java.util.Arrays;
+
 /** The sentences of the document that bound COVER, GRID, ALIKE and SWELLING, one by one. */
 public final class ShapeBoundsTest {
     private static final int BAD = -1, NO = -2, NONE = -4;
@@ -22,6 +24,7 @@ public final class ShapeBoundsTest {
         alikeOfSeven();
         alikeWithLikeOnes();
         alikeBothWays();
+        alikeOfOthers();
         leastPartners();
         partnerRefused();
         swellsInLowestTerms();
@@ -29,6 +32,7 @@ public final class ShapeBoundsTest {
         swellsWithMostNumbers();
         swellingPartAsBits();
         swellingOfTwelve();
+        swellingOfOthers();
         swellingRefused();
         Due.end();
     }
@@ -144,7 +148,10 @@ public final class ShapeBoundsTest {
         gridIs("26,33,40", 26, 7, 14, 2, 2);
     }
 
-    /** Of every GRID that starts at b, those numbers that a SET can have: it is one that has them all. */
+    /**
+     * The numbers up to 40 of every d, e, m, n that could be the best. Those that tell a number twice
+     * are no GRIDS, but a search that took them for such would find them here.
+     */
     private static void gridOfItsOwnNumbers() {
         for (int b = 0; b <= 40; b += 10) {
             for (int d = 1; d < 40 - b; d++) {
@@ -161,9 +168,6 @@ public final class ShapeBoundsTest {
 
     private static void gridAtLeastAsGood(int... given) {
         long numbers = numbersOf(given);
-        if (numbers == 0L) {
-            return;
-        }
         LittleSums x = new LittleSums();
         x.lay();
         for (int v = 0; v <= 40; v++) {
@@ -175,28 +179,37 @@ public final class ShapeBoundsTest {
         for (int what = 0; what <= 4; what++) {
             best[what] = x.grid(0, what);
         }
-        String call = "grid(0, ..) of the numbers of " + java.util.Arrays.toString(given);
+        String call = "grid(0, ..) of the numbers of " + Arrays.toString(given) + ", " + Arrays.toString(best) + ",";
         Due.is(call + " starts", best[0], given[0]);
         Due.holds(call + " is in order", best[1] >= 1 && best[1] < best[2] && best[3] >= 2 && best[4] >= 2);
         Due.is(call + " has them all", numbersOf(best) & numbers, numbers);
-        Due.holds(call + " is as good", rank(best) <= rank(given));
+        Due.holds(call + " is a GRID", isGrid(best));
+        Due.holds(call + " is as good", !isGrid(given) || rank(best) <= rank(given));
     }
 
-    /** The numbers up to 40 of a GRID; 0 if it tells one twice or goes beyond 80. */
     private static long numbersOf(int... grid) {
-        boolean[] told = new boolean[81];
         long numbers = 0L;
         for (int i = 0; i < grid[3]; i++) {
             for (int j = 0; j < grid[4]; j++) {
                 int v = grid[0] + i * grid[1] + j * grid[2];
-                if (v > 80 || told[v]) {
-                    return 0L;
-                }
-                told[v] = true;
                 numbers |= v <= 40 ? 1L << v : 0L;
             }
         }
         return numbers;
+    }
+
+    private static boolean isGrid(int... grid) {
+        boolean[] told = new boolean[81];
+        for (int i = 0; i < grid[3]; i++) {
+            for (int j = 0; j < grid[4]; j++) {
+                int v = grid[0] + i * grid[1] + j * grid[2];
+                if (v > 80 || told[v]) {
+                    return false;
+                }
+                told[v] = true;
+            }
+        }
+        return true;
     }
 
     private static long rank(int... grid) {
@@ -303,6 +316,21 @@ public final class ShapeBoundsTest {
         partnersAre("s0,0,1,2,3,4,5,7;s1,0,2,3,4,5,6,7;", 7, 6, 5, 4, 3, 2, 0);
     }
 
+    /** One of the two SLOTS stays the same from question to question. */
+    private static void alikeOfOthers() {
+        LittleSums x = Given.told("s0,0,1,2;s1,5,7,9;s2,0,1,3;s3,4,5,7;");
+        Due.is("alike(0, 1)", x.alike(0, 1), 1);
+        Due.is("alike(2, 1)", x.alike(2, 1), 0);
+        Due.is("alike(2, 3)", x.alike(2, 3), 1);
+        Due.is("alike(0, 3)", x.alike(0, 3), 0);
+        Due.is("alike(0, 1)", x.alike(0, 1), 1);
+        Due.is("partner(0, 1, 2)", x.partner(0, 1, 2), 9);
+        Due.is("partner(1, 0, 2)", x.partner(1, 0, 2), 2);
+        Due.is("partner(1, 1, 2)", x.partner(1, 1, 2), 9);
+        Due.is("partner(3, 1, 2)", x.partner(3, 1, 2), NONE);
+        Due.is("partner(3, 2, 2)", x.partner(3, 2, 2), 3);
+    }
+
     private static void partnerRefused() {
         Due.sentence("BAD (i below 0); NO likewise; NONE: not so many, or they are not ALIKE.");
         LittleSums x = Given.told("s0,0,1,2;s1,0,1,3;s2,5;");
@@ -394,6 +422,23 @@ public final class ShapeBoundsTest {
         Due.is("swell(2, 1, 2) of 12 behind take", x.swell(2, 1, 2), 4095);
         x.put(2, 0);
         Due.is("swell(2, 1, 2) of 13 behind put", x.swell(2, 1, 2), NO);
+    }
+
+    /** One of the two SLOTS stays the same from question to question; then fewer and lower numbers. */
+    private static void swellingOfOthers() {
+        LittleSums x = Given.told("s0" + Given.upTo(29, 40) + ";s1,39,40;s2,3,4;s3,30,40;");
+        Due.is("swell(0, 1, 0), 68 to 80 of 12", x.swell(0, 1, 0), 13);
+        Due.is("swell(2, 1, 0), 42 to 44 of 2", x.swell(2, 1, 0), 3);
+        Due.is("swell(2, 1, 1)", x.swell(2, 1, 1), 2);
+        Due.is("swell(2, 3, 0), 4 of 2", x.swell(2, 3, 0), 2);
+        Due.is("swell(0, 3, 0), 59, 60, 69, 70, 79 and 80 of 29, 30, 39 and 40", x.swell(0, 3, 0), 3);
+        Due.is("swell(0, 3, 1)", x.swell(0, 3, 1), 2);
+        Due.is("swell(0, 3, 2)", x.swell(0, 3, 2), 0b110000000011);
+        Due.is("swell(3, 3, 0), 60, 70 and 80 of 2", x.swell(3, 3, 0), 3);
+        Due.is("swell(3, 2, 0), 4 of 2", x.swell(3, 2, 0), 2);
+        Due.is("swell(0, 1, 2)", x.swell(0, 1, 2), 4095);
+        Due.is("swell(1, 2, 2)", x.swell(1, 2, 2), 3);
+        Due.is("swell(1, 2, 0), 42 to 44 of 2", x.swell(1, 2, 0), 3);
     }
 
     private static void swellingRefused() {
