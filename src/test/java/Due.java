@@ -17,11 +17,17 @@ final class Due {
     /** What comes behind is about this sentence, which must stand in the document word by word. */
     static void sentence(String words) {
         sentence = "";
+        String all = document();
+        holds("the document says: " + words, all.isEmpty() || all.contains(words));
+        sentence = words;
+    }
+
+    /** The document's words with single blanks between them; empty, if it can't be read. */
+    static String document() {
         if (document == null) {
             document = read();
         }
-        holds("the document says: " + words, document.isEmpty() || document.contains(words));
-        sentence = words;
+        return document;
     }
 
     /** Without the document the answers can be compared all the same, so its lack fails nothing. */

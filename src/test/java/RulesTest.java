@@ -9,6 +9,7 @@ import java.util.ArrayList;
 import java.util.List;
 import java.util.Set;
 import java.util.TreeSet;
+import java.util.regex.Matcher;
 import java.util.regex.Pattern;
 
 /** The public face, and those rules of LANGUAGE.md that reflection or the source's words show. */
@@ -19,6 +20,11 @@ public final class RulesTest {
     private static final String TEXT = "s0,0,1,4,9;s1,0,2,3,7;s2,0,5,10;";
     private static final String CONSTANTS = "BAD FULL NO NONE ZERO";
 
+    /** What rule 4 lists, or lets in as the like of it, and is called by a class's name. */
+    private static final String LIBRARY = "System.arraycopy Arrays.copyOf Arrays.copyOfRange Arrays.fill List.of"
+        + " Integer.compare Integer.bitCount Integer.numberOfTrailingZeros Long.compare Long.bitCount Long.reverse"
+        + " Long.numberOfTrailingZeros Long.numberOfLeadingZeros Math.max Math.min Math.abs Math.floorDiv Math.floorMod";
+
     private RulesTest() {
     }
 
@@ -26,6 +32,7 @@ public final class RulesTest {
         theFace();
         theClasses();
         theWords();
+        theLibrary();
         theMethodsAreShort();
         noCallMakesAnObject();
         Due.end();
@@ -99,6 +106,24 @@ public final class RulesTest {
             }
         }
         Due.holds("the source is ASCII", code.chars().allMatch(c -> c < 127));
+    }
+
+    /** A name with a great letter first and a small one in it is a class: one of its own, or a listed one. */
+    private static void theLibrary() throws IOException {
+        String code = code().replaceAll("(?m)^import .*$", "");
+        Set<String> own = new TreeSet<>(Set.of("LittleSums"));
+        for (Class<?> c : LittleSums.class.getDeclaredClasses()) {
+            own.add(c.getSimpleName());
+        }
+        Matcher name = Pattern.compile("(?<![\\w.])([A-Z]\\w*[a-z]\\w*)(\\.\\w+)?").matcher(code);
+        int calls = 0;
+        while (name.find()) {
+            if (!own.contains(name.group(1))) {
+                calls++;
+                Due.holds(name.group() + " is listed", List.of(LIBRARY.split(" ")).contains(name.group()));
+            }
+        }
+        Due.holds("the library's calls are seen", calls > 0);
     }
 
     /** The source without its comments. */
